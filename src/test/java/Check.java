@@ -1,0 +1,80 @@
+/** What the tests share: feeding a text, and comparing answers with those that are due. */
+final class Check {
+    private static int wrong = 0;
+    private static int asked = 0;
+
+    private Check() {
+    }
+
+    static void due(String call, long got, long want) {
+        asked++;
+        if (got != want) {
+            wrong++;
+            if (wrong <= 40) {
+                System.out.println(call + " answered " + got + ", due is " + want);
+            }
+        }
+    }
+
+    static void due(String call, boolean got, boolean want) {
+        due(call, got ? 1 : 0, want ? 1 : 0);
+    }
+
+    static boolean anyWrong() {
+        return wrong != 0;
+    }
+
+    /** Puts a text on the tape, its last bytes filled up and cut off again. */
+    static void feed(DogDecrees x, byte[] text) {
+        for (int i = 0; i < text.length; i += 20) {
+            int[] numbers = new int[5];
+            for (int j = 0; j < 20; j++) {
+                int b = i + j < text.length ? text[i + j] & 255 : 0;
+                numbers[j / 4] = numbers[j / 4] << 8 | b;
+            }
+            x.feed(numbers[0], numbers[1], numbers[2], numbers[3], numbers[4]);
+        }
+        x.end(text.length);
+    }
+
+    static byte[] bytes(String text) {
+        byte[] all = new byte[text.length()];
+        for (int i = 0; i < all.length; i++) {
+            all[i] = (byte) text.charAt(i);
+        }
+        return all;
+    }
+
+    static int tell(DogDecrees x, String text) {
+        feed(x, bytes(text));
+        return x.village();
+    }
+
+    static DogDecrees village(String text) {
+        DogDecrees x = new DogDecrees();
+        if (tell(x, text) < 0) {
+            due("a text that is told for a test: '" + text + "' at " + x.fault(1), x.fault(0), 0);
+        }
+        return x;
+    }
+
+    /** The text is refused by this FAULT at this place, or (0) taken. */
+    static void fault(String text, int fault, int place) {
+        DogDecrees x = new DogDecrees();
+        int answer = tell(x, text);
+        due("village of '" + text + "' < 0", answer < 0, fault != 0);
+        due("fault(0) of '" + text + "'", x.fault(0), fault);
+        due("fault(1) of '" + text + "'", x.fault(1), place);
+    }
+
+    static String times(String text, int n) {
+        return text.repeat(n);
+    }
+
+    static void end(String test) {
+        System.out.println(test + ": " + asked + " answers, " + wrong + " wrong");
+        if (wrong != 0) {
+            System.exit(1);
+        }
+    }
+}
