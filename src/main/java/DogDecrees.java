@@ -73,6 +73,7 @@ public final class DogDecrees {
     private static final int ACTS = 40;
     private static final int BOXES = 3;
 
+    private static final int ALL_PLACES = 255;
     private static final int AHEAD = 8;
     private static final int LAY_AHEAD = 6;
     private static final int LAID = 4;
@@ -226,7 +227,7 @@ public final class DogDecrees {
         if (!village.hasPlace(place) || !village.hasPlace(now.dog)) {
             return NONE;
         }
-        odds.look(1);
+        odds.look(now.dogBit(), 1);
         return odds.waysTo(0, now.dog, place);
     }
 
@@ -238,7 +239,7 @@ public final class DogDecrees {
         }
         acts.keep(now);
         now.seed = (now.seed * 137 + 71) % 1000;
-        odds.look(1);
+        odds.look(now.dogBit(), 1);
         now.comeTo(village, odds.goal(now.dog, now.seed % DRAWS));
         return now.dog;
     }
@@ -275,7 +276,7 @@ public final class DogDecrees {
         if (!village.hasPlace(place) || !within(n, 0, AHEAD) || !within(part, 0, 1)) {
             return NONE;
         }
-        odds.look(n);
+        odds.look(now.dogBit(), n);
         odds.roam(now.dog, n);
         return partOf(odds.weightOf(place), POWERS[n], part);
     }
@@ -284,7 +285,7 @@ public final class DogDecrees {
         if (!village.hasCase(which) || !within(n, 0, AHEAD) || !within(part, 0, 1)) {
             return NONE;
         }
-        odds.look(n);
+        odds.look(now.dogBit(), n);
         return partOf(odds.waysToPass(now.dog, which, n), POWERS[n], part);
     }
 
@@ -292,7 +293,7 @@ public final class DogDecrees {
         if (!within(n, 0, AHEAD)) {
             return NONE;
         }
-        odds.look(n);
+        odds.look(now.dogBit(), n);
         odds.roam(now.dog, n);
         int likeliest = NONE;
         long greatest = -1;
@@ -310,7 +311,7 @@ public final class DogDecrees {
         if (!village.hasCase(which)) {
             return NONE;
         }
-        odds.look(AHEAD);
+        odds.look(now.dogBit(), AHEAD);
         for (int n = 0; n <= AHEAD; n++) {
             if (moreThanHalf(odds.waysToPass(now.dog, which, n), n)) {
                 return n;
@@ -362,7 +363,7 @@ public final class DogDecrees {
         if (!village.hasCase(which) || !within(n, 0, AHEAD)) {
             return NONE;
         }
-        odds.look(n);
+        odds.look(ALL_PLACES, n);
         int bits = 0;
         for (int place = 0; place < village.places; place++) {
             if (moreThanHalf(odds.waysToPass(place, which, n), n)) {
@@ -373,7 +374,7 @@ public final class DogDecrees {
     }
 
     public int haunt() {
-        odds.look(AHEAD);
+        odds.look(now.dogBit(), AHEAD);
         return odds.mostHaunted();
     }
 
@@ -393,7 +394,7 @@ public final class DogDecrees {
         for (int place = 0; place < village.places; place++) {
             odds.layNone();
             odds.more[place] = 1;
-            odds.countWays(0, 1);
+            odds.countWays(ALL_PLACES, 0, 1);
             long weight = odds.waysOfWalk(n);
             if (weight > greatest) {
                 greatest = weight;
@@ -1405,6 +1406,11 @@ public final class DogDecrees {
             return walk[(hours - 1 - i) % WALK];
         }
 
+        /** Where the dog is, as a bit. */
+        int dogBit() {
+            return within(dog, 0, PLACES - 1) ? 1 << dog : 0;
+        }
+
         int allBones() {
             int all = 0;
             for (int place = 0; place < PLACES; place++) {
@@ -1483,10 +1489,14 @@ public final class DogDecrees {
         // By HOUR ahead, PLACE from, PLACE to: of 60 DRAWS.
         final int[] ways = new int[AHEAD * PLACES * PLACES];
         final int[] gains = new int[PLACES];
+        int leastGain = 0;
+        int mostGain = 0;
         // By PLACE and SCORE.
         long[] weights = new long[PLACES * SCORES];
         long[] weightsThen = new long[PLACES * SCORES];
         final long[] haunts = new long[PLACES];
+        // Weights are 0 at other PLACES (bits) and beyond these SCORES.
+        int occupied = 0;
         int low = 0;
         int high = 0;
 
@@ -1495,11 +1505,11 @@ public final class DogDecrees {
             this.now = now;
         }
 
-        /** Makes all ready to look so many HOURS ahead with the bones that lie there. */
-        void look(int hours) {
+        /** Makes all ready to look so many HOURS ahead from some PLACES, with the bones that lie there. */
+        void look(int places, int hours) {
             layNone();
             weighPulls(hours, 0);
-            countWays(0, hours);
+            countWays(places, 0, hours);
         }
 
         void layNone() {
@@ -1514,7 +1524,7 @@ public final class DogDecrees {
                 for (int place = 0; place < village.places; place++) {
                     for (int laid = 0; laid <= most && laid <= LAID; laid++) {
                         int bones = gone ? 0 : now.bones[place] + laid;
-                        int slot = pullSlot(step, place, laid);
+                        int slot = ((step * PLACES + place) * (LAID + 1) + laid) * 2;
                         pulls[slot] = village.pullOf(place, bones, then, 0);
                         pulls[slot + 1] = village.pullOf(place, bones, then, 1);
                     }
@@ -1522,16 +1532,23 @@ public final class DogDecrees {
             }
         }
 
-        private static int pullSlot(int step, int place, int laid) {
-            return ((step * PLACES + place) * (LAID + 1) + laid) * 2;
-        }
-
-        /** Of 60 DRAWS to where, for the HOURS ahead from .. to - 1. */
-        void countWays(int from, int to) {
-            for (int step = from; step < to && step < AHEAD; step++) {
+        /**
+         * Of 60 DRAWS to where, for the HOURS ahead first .. end - 1, if the dog is now at one of some
+         * PLACES (bits): where it can't be by then, nothing is counted.
+         */
+        void countWays(int places, int first, int end) {
+            int near = places;
+            for (int step = 0; step < end && step < AHEAD; step++) {
+                int wider = near;
                 for (int place = 0; place < village.places; place++) {
-                    countRow(step, place);
+                    if ((near >> place & 1) != 0) {
+                        wider |= village.leads[place];
+                        if (step >= first) {
+                            countRow(step, place);
+                        }
+                    }
                 }
+                near = wider;
             }
         }
 
@@ -1563,8 +1580,11 @@ public final class DogDecrees {
         }
 
         private int pullAt(int step, int from, int to) {
-            int laid = Math.max(0, Math.min(LAID, more[to]));
-            return pulls[pullSlot(step, to, laid) + (from == to ? 1 : 0)];
+            int laid = more[to];
+            if (laid < 0 || laid > LAID) {
+                return 0;
+            }
+            return pulls[((step * PLACES + to) * (LAID + 1) + laid) * 2 + (from == to ? 1 : 0)];
         }
 
         int waysTo(int step, int from, int to) {
@@ -1588,10 +1608,12 @@ public final class DogDecrees {
 
         private void standAt(int place, int score) {
             Arrays.fill(weights, 0L);
-            low = score;
-            high = score;
+            occupied = 0;
             if (village.hasPlace(place) && within(score, -MOST_SCORE, MOST_SCORE)) {
                 weights[place * SCORES + MOST_SCORE + score] = 1L;
+                occupied = 1 << place;
+                low = score;
+                high = score;
             }
         }
 
@@ -1633,9 +1655,7 @@ public final class DogDecrees {
             if (now.standing[which] == PASSED) {
                 return POWERS[n];
             }
-            for (int to = 0; to < village.places; to++) {
-                gains[to] = village.countAt(to, which);
-            }
+            setGains(which);
             standAt(place, now.scores[which]);
             int end = behindLastHeard(which, n);
             long passed = 0;
@@ -1644,6 +1664,16 @@ public final class DogDecrees {
                 passed = passed * DRAWS + moveAll(step, heard ? which : NONE);
             }
             return passed * POWERS[n - end];
+        }
+
+        private void setGains(int which) {
+            leastGain = 0;
+            mostGain = 0;
+            for (int place = 0; place < village.places; place++) {
+                gains[place] = village.countAt(place, which);
+                leastGain = Math.min(leastGain, gains[place]);
+                mostGain = Math.max(mostGain, gains[place]);
+            }
         }
 
         /** How many of n HOURS it takes till a CASE is HEARD for the last time: later ones change nothing. */
@@ -1660,20 +1690,23 @@ public final class DogDecrees {
             Arrays.fill(weightsThen, 0L);
             int bar = village.hasCase(heard) ? village.bar[heard] : MOST_SCORE + 1;
             long passed = 0;
+            int occupiedThen = 0;
             for (int from = 0; from < village.places; from++) {
-                for (int to = 0; to < village.places; to++) {
+                for (int to = 0; to < village.places && (occupied >> from & 1) != 0; to++) {
                     int drawn = ways[(step * PLACES + from) * PLACES + to];
                     if (drawn != 0) {
                         passed += moveOne(from, to, drawn, heard == NONE ? 0 : gains[to], bar);
+                        occupiedThen |= 1 << to;
                     }
                 }
             }
             long[] freed = weights;
             weights = weightsThen;
             weightsThen = freed;
+            occupied = occupiedThen;
             if (heard != NONE) {
-                low = Math.max(low - MOST_COUNT, -MOST_SCORE);
-                high = Math.min(high + MOST_COUNT, MOST_SCORE);
+                low = Math.max(low + leastGain, 1 - bar);
+                high = Math.min(high + mostGain, bar - 1);
             }
             return passed;
         }
@@ -1739,11 +1772,11 @@ public final class DogDecrees {
             hoursToday = Math.min(n, village.day - village.hourAt(now.hours));
             odds.layNone();
             odds.weighPulls(n, most);
-            odds.countWays(hoursToday, n);
+            odds.countWays(now.dogBit(), hoursToday, n);
         }
 
         private long measure() {
-            odds.countWays(0, hoursToday);
+            odds.countWays(now.dogBit(), 0, hoursToday);
             return odds.waysToPass(now.dog, which, hours);
         }
 
@@ -1751,12 +1784,12 @@ public final class DogDecrees {
         boolean choose(int k) {
             greatest = -1;
             odds.layNone();
-            tryFrom(0, k);
+            layFrom(0, k);
             return greatest >= 0;
         }
 
         /** Lays what is left from a PLACE on, the most first. */
-        private void tryFrom(int place, int left) {
+        private void layFrom(int place, int left) {
             if (place >= village.places || place >= PLACES) {
                 if (left == 0) {
                     compare();
@@ -1766,7 +1799,7 @@ public final class DogDecrees {
             int most = Math.min(left, MOST_BONES - now.bones[place]);
             for (int laid = most; laid >= 0; laid--) {
                 odds.more[place] = laid;
-                tryFrom(place + 1, left - laid);
+                layFrom(place + 1, left - laid);
             }
         }
 
