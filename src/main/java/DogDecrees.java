@@ -1657,13 +1657,19 @@ public final class DogDecrees {
             }
             setGains(which);
             standAt(place, now.scores[which]);
-            int end = behindLastHeard(which, n);
+            int left = heardWithin(which, n);
             long passed = 0;
-            for (int step = 0; step < end; step++) {
+            for (int step = 0; step < n; step++) {
+                // SCORES from which the bar can't be reached any more are not gone on with
+                low = Math.max(low, village.bar[which] - left * mostGain);
+                if (low > high) {
+                    return passed * POWERS[n - step];
+                }
                 boolean heard = village.heardAt(now.hours + step) == which;
                 passed = passed * DRAWS + moveAll(step, heard ? which : NONE);
+                left -= heard ? 1 : 0;
             }
-            return passed * POWERS[n - end];
+            return passed;
         }
 
         private void setGains(int which) {
@@ -1676,13 +1682,13 @@ public final class DogDecrees {
             }
         }
 
-        /** How many of n HOURS it takes till a CASE is HEARD for the last time: later ones change nothing. */
-        private int behindLastHeard(int which, int n) {
-            int end = n;
-            while (end > 0 && village.heardAt(now.hours + end - 1) != which) {
-                end--;
+        /** In how many of the next n HOURS a CASE is HEARD. */
+        private int heardWithin(int which, int n) {
+            int heard = 0;
+            for (int step = 0; step < n; step++) {
+                heard += village.heardAt(now.hours + step) == which ? 1 : 0;
             }
-            return end;
+            return heard;
         }
 
         /** An HOUR of all weights, in which a CASE is HEARD (or NONE): those by which it is PASSED. */

@@ -68,6 +68,13 @@ public final class OddsTest {
         // a falls by 1: only b first, or a and b in turn never reach 1 below
         x = Check.village(TWO + "case c bar 1;when b c 1;when a c -1;");
         odds("pass with a fall", x.pass(0, 8, 0), x.pass(0, 8, 1), 3, 4);
+        // it rises again from below 0: b, or a b b; it falls by a a
+        x = Check.village(EVEN + "case c bar 2;when a c -1;when b c 2;");
+        odds("pass from below 0", x.pass(0, 3, 0), x.pass(0, 3, 1), 5, 8);
+        odds("pass from below 0, a b a b", x.pass(0, 4, 0), x.pass(0, 4, 1), 11, 16);
+        x = Check.village(EVEN + "case c bar 15;when a c -3;when b c 3;");
+        odds("pass a far bar", x.pass(0, 5, 0), x.pass(0, 5, 1), 1, 32);
+        odds("pass a far bar in 7", x.pass(0, 7, 0), x.pass(0, 7, 1), 9, 128);
         // two CASES in turn: c in HOURS 0, 2, d in 1, 3
         x = Check.village(TWO + "case c bar 1;case d bar 2;when b c 3;when b d 1;");
         odds("pass(0, 2)", x.pass(0, 2, 0), x.pass(0, 2, 1), 3, 4);

@@ -129,6 +129,7 @@ public final class TellingTest {
         Check.fault("", 0, -1);
         Check.fault(" \n \n", 0, -1);
         Check.fault("deed\nabcdefgh;", 0, -1);
+        Check.fault("deed az;deed zz;deed z;", 0, -1);
         Check.fault("deed abcdefghi;", 1, 5);
         Check.fault("deeda;", 2, 0);
         Check.fault("deed\ta;", 1, 4);
@@ -277,6 +278,12 @@ public final class TellingTest {
         Check.fault("pull not 1<2<3;", 2, 12);
         Check.fault("pull 1 2;", 2, 7);
         Check.fault("pull 1 or;", 2, 9);
+        Check.fault("pull 1 and;", 2, 10);
+        Check.fault("pull 1+;", 2, 7);
+        Check.fault("pull 1%;", 2, 7);
+        Check.fault("pull 1>;", 2, 7);
+        Check.fault("pull not;", 2, 8);
+        Check.fault("pull (1 and);", 2, 11);
         Check.fault("pull or 1;", 2, 5);
         Check.fault("pull dog;", 2, 5);
         Check.fault("pull draw;", 2, 5);
