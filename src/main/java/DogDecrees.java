@@ -1609,11 +1609,11 @@ public final class DogDecrees {
         private void standAt(int place, int score) {
             Arrays.fill(weights, 0L);
             occupied = 0;
+            low = score;
+            high = score;
             if (village.hasPlace(place) && within(score, -MOST_SCORE, MOST_SCORE)) {
                 weights[place * SCORES + MOST_SCORE + score] = 1L;
                 occupied = 1 << place;
-                low = score;
-                high = score;
             }
         }
 
