@@ -2,6 +2,8 @@
 final class Check {
     private static int wrong = 0;
     private static int asked = 0;
+    private static String sentence = "";
+    private static int askedBefore = 0;
 
     private Check() {
     }
@@ -11,9 +13,30 @@ final class Check {
         if (got != want) {
             wrong++;
             if (wrong <= 40) {
-                System.out.println(call + " answered " + got + ", due is " + want);
+                System.out.println(sentence + call + " answered " + got + ", due is " + want);
             }
         }
+    }
+
+    /** The answers from here on are due by these words of the document. */
+    static void of(String words) {
+        endSentence();
+        sentence = "\"" + words + "\": ";
+        askedBefore = asked;
+    }
+
+    private static void endSentence() {
+        if (!sentence.isEmpty() && asked == askedBefore) {
+            wrong++;
+            System.out.println(sentence + "nothing was asked");
+        }
+    }
+
+    /** Numbers that are not within least .. most: the nearest, the farthest, and some that cut bits would make of them. */
+    static int[] outside(int least, int most) {
+        int[] tried = {Integer.MIN_VALUE, Integer.MIN_VALUE + least, -1000000, -65536 + least, -256 + least, -32 + least,
+            least - 1, most + 1, least + 32, least + 64, least + 256, least + 65536, 1000000, Integer.MAX_VALUE};
+        return java.util.Arrays.stream(tried).filter(n -> n < least || n > most).toArray();
     }
 
     static void due(String call, boolean got, boolean want) {
@@ -72,6 +95,7 @@ final class Check {
     }
 
     static void end(String test) {
+        endSentence();
         System.out.println(test + ": " + asked + " answers, " + wrong + " wrong");
         if (wrong != 0) {
             System.exit(1);
