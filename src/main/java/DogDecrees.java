@@ -19,6 +19,8 @@ public final class DogDecrees {
     private static final int TABLE_ROWS = 16;
     private static final int UNITS = 30;
     private static final int DEPTH = 7;
+    // each unit is a step, each but one is joined to another, and each has DEPTH nots around it at most
+    private static final int STEPS = UNITS + UNITS - 1 + UNITS * DEPTH;
 
     private static final int FAULT_TOKEN = 1;
     private static final int FAULT_STAND = 2;
@@ -1122,8 +1124,7 @@ public final class DogDecrees {
 
     /** A formula as steps over a stack: a number is itself, all else its TOKEN's kind below 0. */
     private static final class Formula {
-        // Each step comes of a TOKEN, so the tape's length bounds them.
-        final int[] steps = new int[TAPE_BYTES];
+        final int[] steps = new int[STEPS];
         final int[] stack = new int[UNITS];
         int length = 0;
         int units = 0;
@@ -1134,21 +1135,21 @@ public final class DogDecrees {
         }
 
         void addStep(int step) {
-            if (length < TAPE_BYTES) {
+            if (length < STEPS) {
                 steps[length] = step;
                 length++;
             }
         }
 
         void copyFrom(Formula other) {
-            System.arraycopy(other.steps, 0, steps, 0, TAPE_BYTES);
+            System.arraycopy(other.steps, 0, steps, 0, STEPS);
             length = other.length;
             units = other.units;
         }
 
         int valueOf(int smell, int bones, int hour, int age, int here) {
             int top = 0;
-            for (int i = 0; i < length && i < TAPE_BYTES; i++) {
+            for (int i = 0; i < length && i < STEPS; i++) {
                 int step = steps[i];
                 if (step == -WORD_NOT) {
                     if (top > 0) {

@@ -610,13 +610,17 @@ public final class TextEdgesTest {
         Check.fault(half + "*1;", 2, half.length() + 1);
         Check.due("PULL of 30 within one another", Check.village(TWO + "pull "
                 + "1+(".repeat(7) + "1" + "+1".repeat(15) + ")".repeat(7) + ";").place(0, 4), 23);
-        // 30 numbers wait for one another only within brackets: 1-(1-(1-.. goes seven deep
         Check.due("units of seven brackets", Check.village("pull " + "1+(".repeat(7) + "1" + "+1".repeat(15)
                 + ")".repeat(7) + ";").about(15), 30);
     }
 
     private static void within() {
         Check.of("(a unit ( e ), or a one behind not, within 6 others at most)");
+        // as many as can be: 30 units, each behind 7 nots
+        String nots = "not ".repeat(7);
+        String most = (nots + "0 and ").repeat(29) + nots;
+        Check.due("not 0 seven times, thirty times", Check.village(TWO + "pull " + most + "0;").place(0, 4), 1);
+        Check.due("not 1 the last time", Check.village(TWO + "pull " + most + "1;").place(0, 4), 0);
         String[] fine = {"(((((((1)))))))", "not not not not not not not 1", "not(not(not(not 1)))", "(not(not(not(1))))",
             "not not not((((1))))", "((((((not 1))))))", "(((((((1)))))))+(((((((2)))))))", "((((((not 1 and not 2))))))",
             "not not not not not not(1)", "(((((((1+1)))))))=1 and not not not not not not not 1"};
