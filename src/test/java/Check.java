@@ -90,6 +90,21 @@ final class Check {
         due("fault(1) of '" + text + "'", x.fault(1), place);
     }
 
+    /** What lies there is just this. */
+    static void lie(DogDecrees x, int... due) {
+        due("how many lie there", x.about(16), due.length);
+        for (int i = 0; i < due.length; i++) {
+            due("lies(" + i + ")", x.lies(i), due[i]);
+        }
+        due("lies(" + due.length + ")", x.lies(due.length), DogDecrees.GAP);
+        due("lies(-1)", x.lies(-1), DogDecrees.GAP);
+    }
+
+    static void odds(String call, long upper, long lower, long dueUpper, long dueLower) {
+        due(call + ", the upper part", upper, dueUpper);
+        due(call + ", the lower part", lower, dueLower);
+    }
+
     static String times(String text, int n) {
         return text.repeat(n);
     }

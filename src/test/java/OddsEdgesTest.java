@@ -41,30 +41,16 @@ public final class OddsEdgesTest {
         Check.end("OddsEdgesTest");
     }
 
-    private static void odds(String call, long upper, long lower, long dueUpper, long dueLower) {
-        Check.due(call + ", the upper part", upper, dueUpper);
-        Check.due(call + ", the lower part", lower, dueLower);
-    }
-
     private static void where(DogDecrees x, int place, int n, long upper, long lower) {
-        odds("where(" + place + ", " + n + ")", x.where(place, n, 0), x.where(place, n, 1), upper, lower);
+        Check.odds("where(" + place + ", " + n + ")", x.where(place, n, 0), x.where(place, n, 1), upper, lower);
     }
 
     private static void pass(DogDecrees x, int which, int n, long upper, long lower) {
-        odds("pass(" + which + ", " + n + ")", x.pass(which, n, 0), x.pass(which, n, 1), upper, lower);
+        Check.odds("pass(" + which + ", " + n + ")", x.pass(which, n, 0), x.pass(which, n, 1), upper, lower);
     }
 
     private static void best(DogDecrees x, int which, int n, int k, long upper, long lower) {
-        odds("best(" + which + ", " + n + ", " + k + ")", x.best(which, n, k, 0), x.best(which, n, k, 1), upper, lower);
-    }
-
-    private static void lie(DogDecrees x, int... due) {
-        Check.due("how many lie there", x.about(16), due.length);
-        for (int i = 0; i < due.length; i++) {
-            Check.due("lies(" + i + ")", x.lies(i), due[i]);
-        }
-        Check.due("lies(" + due.length + ")", x.lies(due.length), GAP);
-        Check.due("lies(-1)", x.lies(-1), GAP);
+        Check.odds("best(" + which + ", " + n + ", " + k + ")", x.best(which, n, k, 0), x.best(which, n, k, 1), upper, lower);
     }
 
     private static DogDecrees walked(String text, int hours) {
@@ -315,7 +301,7 @@ public final class OddsEdgesTest {
         long[][] due = {{729, 4096}, {4096, 15625}, {15625, 46656}, {24137569, 64000000}, {4826809, 11390625}};
         for (int k = 0; k <= 4; k++) {
             best(x, 0, 6, k, due[k][0], due[k][1]);
-            lie(x, 0, k);
+            Check.lie(x, 0, k);
         }
         best(x, 0, 5, 4, 0, 1);
         best(x, 0, 1, 4, 0, 1);
@@ -346,11 +332,11 @@ public final class OddsEdgesTest {
         // a bone makes p less (3 to 1) and q more (3 to 6): none at all would be the best for c
         DogDecrees x = Check.village(PAIR + "pull 3-(bones>0)*(smell=1)*2+(bones>0)*(smell=3)*3;case c bar 1;when a c 1;");
         best(x, 0, 1, 0, 1, 2);
-        lie(x, 0, 0);
+        Check.lie(x, 0, 0);
         best(x, 0, 1, 1, 1, 3);
-        lie(x, 0, 1);
+        Check.lie(x, 0, 1);
         best(x, 0, 1, 4, 1, 3);
-        lie(x, 0, 4);
+        Check.lie(x, 0, 4);
         x.lay(1);
         x.lay(0);
         best(x, 0, 1, 0, 3, 20);
@@ -369,52 +355,52 @@ public final class OddsEdgesTest {
         layAll(x, 0, 8);
         // 10 of 15 with one more at p and two at q
         best(x, 0, 1, 3, 2, 3);
-        lie(x, 1, 2);
+        Check.lie(x, 1, 2);
         x.lay(0);
         // 10 of 17: 36 DRAWS
         best(x, 0, 1, 4, 3, 5);
-        lie(x, 0, 4);
+        Check.lie(x, 0, 4);
         Check.of("or so many can't be laid");
         layAll(x, 1, 6);
         Check.due("best of 4 where 3 can be", x.best(0, 1, 4, 0), NONE);
-        lie(x);
+        Check.lie(x);
         Check.due("best of 3", x.best(0, 1, 3, 1) > 0, true);
-        lie(x, 0, 3);
+        Check.lie(x, 0, 3);
         layAll(x, 1, 3);
         Check.due("best of 1 where none can be", x.best(0, 1, 1, 0), NONE);
-        lie(x);
+        Check.lie(x);
         // 10 of 22: 28 DRAWS
         best(x, 0, 1, 0, 7, 15);
-        lie(x, 0, 0);
+        Check.lie(x, 0, 0);
     }
 
     private static void theMostFirst() {
         Check.of("of like ones the first (by PLACES, the most first)");
         DogDecrees x = Check.village(EIGHT + "case c bar 1;day 24;");
         best(x, 0, 6, 0, 0, 1);
-        lie(x, 0, 0, 0, 0, 0, 0, 0, 0);
+        Check.lie(x, 0, 0, 0, 0, 0, 0, 0, 0);
         best(x, 0, 6, 4, 0, 1);
-        lie(x, 4, 0, 0, 0, 0, 0, 0, 0);
+        Check.lie(x, 4, 0, 0, 0, 0, 0, 0, 0);
         layAll(x, 0, 7);
         best(x, 0, 1, 4, 0, 1);
-        lie(x, 2, 2, 0, 0, 0, 0, 0, 0);
+        Check.lie(x, 2, 2, 0, 0, 0, 0, 0, 0);
         layAll(x, 0, 2);
         layAll(x, 1, 8);
         best(x, 0, 1, 4, 0, 1);
-        lie(x, 0, 1, 3, 0, 0, 0, 0, 0);
+        Check.lie(x, 0, 1, 3, 0, 0, 0, 0, 0);
         x = Check.village(EIGHT + "case c bar 1;day 24;");
         for (int p = 0; p < 7; p++) {
             layAll(x, p, 9);
         }
         best(x, 0, 1, 4, 0, 1);
-        lie(x, 0, 0, 0, 0, 0, 0, 0, 4);
+        Check.lie(x, 0, 0, 0, 0, 0, 0, 0, 4);
         // one bone at each of p and q is as good as two and one, or one and two
         x = Check.village("deed a;deed b;place p smell 1 does a;place q smell 1 does a;place r smell 1 does b;"
                 + "path r to p;path r to q;start r;pull 1+(bones>0);case c bar 1;when a c 1;");
         best(x, 0, 1, 2, 4, 5);
-        lie(x, 1, 1, 0);
+        Check.lie(x, 1, 1, 0);
         best(x, 0, 1, 3, 4, 5);
-        lie(x, 2, 1, 0);
+        Check.lie(x, 2, 1, 0);
     }
 
     private static String nearQ(int smell) {
@@ -429,40 +415,40 @@ public final class OddsEdgesTest {
             DogDecrees x = Check.village(nearQ(smell));
             Check.due("least(0, 1) by " + smell, x.least(0, 1), smell <= 4 ? smell : NONE);
             if (smell <= 4) {
-                lie(x, smell, 0);
+                Check.lie(x, smell, 0);
             } else {
-                lie(x);
+                Check.lie(x);
             }
         }
         DogDecrees x = Check.village(HALF + "case c bar 1;when a c 1;");
         Check.due("least(0, 1): a half is not more", x.least(0, 1), NONE);
         Check.due("least(0, 2)", x.least(0, 2), 0);
-        lie(x, 0, 0);
+        Check.lie(x, 0, 0);
         Check.of("LEAST (n 1 .. 6): how many; NONE if 4 are not enough, or one can't be");
         x = Check.village(ONE + "case c bar 6;case d bar 1;when a c 1;hears 6;");
         Check.due("least(0, 6)", x.least(0, 6), 0);
-        lie(x, 0);
+        Check.lie(x, 0);
         Check.due("least(0, 5)", x.least(0, 5), NONE);
-        lie(x);
+        Check.lie(x);
         for (int n : Check.outside(1, 6)) {
             x.least(0, 6);
             Check.due("least(0, " + n + ")", x.least(0, n), NONE);
-            lie(x);
+            Check.lie(x);
         }
         for (int c : Check.outside(0, 1)) {
             x.least(0, 6);
             Check.due("least(" + c + ", 6)", x.least(c, 6), NONE);
-            lie(x);
+            Check.lie(x);
         }
         x = walked(ONE + "case c bar 1;case d bar 1;when a c 1;when a d -1;", 2);
         Check.due("least of what is PASSED", x.least(0, 1), 0);
-        lie(x, 0);
+        Check.lie(x, 0);
         Check.due("least of what is PASSED, in no HOURS", x.least(0, 0), NONE);
-        lie(x);
+        Check.lie(x);
         Check.due("best of what is PASSED, in no HOURS", x.best(0, 0, 1, 0), NONE);
         Check.due("byTurns of what is PASSED, in no HOURS", x.byTurns(0, 0, 0), NONE);
         Check.due("least of what is FALLEN", x.least(1, 6), NONE);
-        lie(x);
+        Check.lie(x);
         leastOfFull();
     }
 
@@ -473,7 +459,7 @@ public final class OddsEdgesTest {
         layAll(x, 1, 6);
         // 10 of 20; a bone at q makes it less, and p has 9
         Check.due("least where p is full", x.least(0, 1), NONE);
-        lie(x);
+        Check.lie(x);
         layAll(x, 1, 3);
         Check.due("least where none can be laid", x.least(0, 1), NONE);
         x.take(1);
@@ -481,27 +467,27 @@ public final class OddsEdgesTest {
         x.take(1);
         x.take(1);
         Check.due("least where it is so already", x.least(0, 1), 0);
-        lie(x, 0, 0);
+        Check.lie(x, 0, 0);
     }
 
     private static void layAtTheDaysEnd() {
         Check.of("behind the last one of the DAY all bones are gone");
         DogDecrees x = Check.village(QUARTER + "day 2;case c bar 2;when b c 1;");
         best(x, 0, 2, 1, 16, 25);
-        lie(x, 0, 1);
+        Check.lie(x, 0, 1);
         Check.due("hour() by DRAW 11", x.hour(), 0);
         // a bone counts in one HOUR more alone: 4 of 5, then 3 of 4
         best(x, 0, 2, 1, 3, 5);
-        lie(x, 0, 1);
+        Check.lie(x, 0, 1);
         best(x, 0, 3, 1, 69, 80);
         best(x, 0, 2, 4, 13, 20);
-        lie(x, 0, 4);
+        Check.lie(x, 0, 4);
         x = Check.village(QUARTER + "day 1;case c bar 2;when b c 1;");
         best(x, 0, 2, 1, 3, 5);
         // c is HEARD in HOURS 2 and 3 alone, when all bones are gone
         x = Check.village(QUARTER + "day 2;case b bar 1;case c bar 1;when a c 1;hears 2;");
         best(x, 1, 4, 3, 7, 16);
-        lie(x, 3, 0);
+        Check.lie(x, 3, 0);
         Check.due("least: bones are of no use", x.least(1, 4), NONE);
         Check.due("byTurns: like ones", x.byTurns(1, 4, 0) + x.byTurns(1, 4, 1), 0);
     }
@@ -702,15 +688,15 @@ public final class OddsEdgesTest {
         Check.of("How many are laid at each PLACE lies there then (behind NONE: nothing)");
         DogDecrees y = Check.village(nearQ(2));
         y.best(0, 1, 3, 1);
-        lie(y, 3, 0);
+        Check.lie(y, 3, 0);
         y.least(0, 1);
-        lie(y, 2, 0);
+        Check.lie(y, 2, 0);
         y.best(0, 7, 3, 1);
-        lie(y);
+        Check.lie(y);
         y.best(0, 6, 0, 0);
-        lie(y, 0, 0);
+        Check.lie(y, 0, 0);
         y.least(1, 1);
-        lie(y);
+        Check.lie(y);
         Check.of("The i-th number of what lies there; GAP if there is none such");
         DogDecrees x = Check.village(EIGHT + "case c bar 1;");
         Check.due("lies(0) ahead of all", x.lies(0), GAP);

@@ -24,34 +24,29 @@ public final class OddsTest {
         Check.end("OddsTest");
     }
 
-    private static void odds(String call, long upper, long lower, long dueUpper, long dueLower) {
-        Check.due(call + " upper", upper, dueUpper);
-        Check.due(call + " lower", lower, dueLower);
-    }
-
     private static void where() {
         DogDecrees x = Check.village(TWO);
-        odds("where(0, 0)", x.where(0, 0, 0), x.where(0, 0, 1), 1, 1);
-        odds("where(1, 0)", x.where(1, 0, 0), x.where(1, 0, 1), 0, 1);
-        odds("where(1, 1)", x.where(1, 1, 0), x.where(1, 1, 1), 3, 4);
-        odds("where(0, 8)", x.where(0, 8, 0), x.where(0, 8, 1), 1, 4);
+        Check.odds("where(0, 0)", x.where(0, 0, 0), x.where(0, 0, 1), 1, 1);
+        Check.odds("where(1, 0)", x.where(1, 0, 0), x.where(1, 0, 1), 0, 1);
+        Check.odds("where(1, 1)", x.where(1, 1, 0), x.where(1, 1, 1), 3, 4);
+        Check.odds("where(0, 8)", x.where(0, 8, 0), x.where(0, 8, 1), 1, 4);
         // 1 bone at p till the DAY ends: 2 of 5, then 1 of 4
         x = Check.village(TWO + "day 2;");
         x.lay(0);
-        odds("where(0, 1) with a bone", x.where(0, 1, 0), x.where(0, 1, 1), 2, 5);
-        odds("where(0, 2) with a bone", x.where(0, 2, 0), x.where(0, 2, 1), 2, 5);
-        odds("where(0, 3) without", x.where(0, 3, 0), x.where(0, 3, 1), 1, 4);
+        Check.odds("where(0, 1) with a bone", x.where(0, 1, 0), x.where(0, 1, 1), 2, 5);
+        Check.odds("where(0, 2) with a bone", x.where(0, 2, 0), x.where(0, 2, 1), 2, 5);
+        Check.odds("where(0, 3) without", x.where(0, 3, 0), x.where(0, 3, 1), 1, 4);
         // 1 of 7 is 9 of 60 DRAWS
         x = Check.village("deed a;place p smell 1 does a;place q smell 6 does a;path p to q;pull smell;");
-        odds("where(0, 1) by 1 of 7", x.where(0, 1, 0), x.where(0, 1, 1), 3, 20);
+        Check.odds("where(0, 1) by 1 of 7", x.where(0, 1, 0), x.where(0, 1, 1), 3, 20);
         // here: it stays by 2 of 3
         x = Check.village(EVEN + "pull 1+here;");
-        odds("where(0, 2) by here", x.where(0, 2, 0), x.where(0, 2, 1), 5, 9);
+        Check.odds("where(0, 2) by here", x.where(0, 2, 0), x.where(0, 2, 1), 5, 9);
         // 7 of 60 to the 8th has no common divisor but of 60: 7^8 / 60^8
         x = Check.village("deed a;place p smell 1 does a;place q smell 0 does a;path p to q;pull 7+46*smell;start q;");
         Check.due("draws(1)", x.draws(1), 7);
         x = Check.village("deed a;place p smell 1 does a;place q smell 0 does a;path p to q;pull (7+46*smell)*(here=1 or smell=1)*(not(smell=1 and here=1));start q;");
-        odds("where(1, 1)", x.where(1, 1, 0), x.where(1, 1, 1), 7, 60);
+        Check.odds("where(1, 1)", x.where(1, 1, 0), x.where(1, 1, 1), 7, 60);
         int[][] wrong = {{-1, 1, 0}, {2, 1, 0}, {0, -1, 0}, {0, 9, 0}, {0, 1, -1}, {0, 1, 2}};
         for (int[] w : wrong) {
             Check.due("where of what can't be", x.where(w[0], w[1], w[2]), NONE);
@@ -61,34 +56,34 @@ public final class OddsTest {
 
     private static void pass() {
         DogDecrees x = Check.village(TWO + "case c bar 2;when b c 1;");
-        odds("pass(0, 0)", x.pass(0, 0, 0), x.pass(0, 0, 1), 0, 1);
-        odds("pass(0, 1)", x.pass(0, 1, 0), x.pass(0, 1, 1), 0, 1);
-        odds("pass(0, 2)", x.pass(0, 2, 0), x.pass(0, 2, 1), 9, 16);
-        odds("pass(0, 3)", x.pass(0, 3, 0), x.pass(0, 3, 1), 27, 32);
+        Check.odds("pass(0, 0)", x.pass(0, 0, 0), x.pass(0, 0, 1), 0, 1);
+        Check.odds("pass(0, 1)", x.pass(0, 1, 0), x.pass(0, 1, 1), 0, 1);
+        Check.odds("pass(0, 2)", x.pass(0, 2, 0), x.pass(0, 2, 1), 9, 16);
+        Check.odds("pass(0, 3)", x.pass(0, 3, 0), x.pass(0, 3, 1), 27, 32);
         // a falls by 1: only b first, or a and b in turn never reach 1 below
         x = Check.village(TWO + "case c bar 1;when b c 1;when a c -1;");
-        odds("pass with a fall", x.pass(0, 8, 0), x.pass(0, 8, 1), 3, 4);
+        Check.odds("pass with a fall", x.pass(0, 8, 0), x.pass(0, 8, 1), 3, 4);
         // it rises again from below 0: b, or a b b; it falls by a a
         x = Check.village(EVEN + "case c bar 2;when a c -1;when b c 2;");
-        odds("pass from below 0", x.pass(0, 3, 0), x.pass(0, 3, 1), 5, 8);
-        odds("pass from below 0, a b a b", x.pass(0, 4, 0), x.pass(0, 4, 1), 11, 16);
+        Check.odds("pass from below 0", x.pass(0, 3, 0), x.pass(0, 3, 1), 5, 8);
+        Check.odds("pass from below 0, a b a b", x.pass(0, 4, 0), x.pass(0, 4, 1), 11, 16);
         x = Check.village(EVEN + "case c bar 15;when a c -3;when b c 3;");
-        odds("pass a far bar", x.pass(0, 5, 0), x.pass(0, 5, 1), 1, 32);
-        odds("pass a far bar in 7", x.pass(0, 7, 0), x.pass(0, 7, 1), 9, 128);
+        Check.odds("pass a far bar", x.pass(0, 5, 0), x.pass(0, 5, 1), 1, 32);
+        Check.odds("pass a far bar in 7", x.pass(0, 7, 0), x.pass(0, 7, 1), 9, 128);
         // two CASES in turn: c in HOURS 0, 2, d in 1, 3
         x = Check.village(TWO + "case c bar 1;case d bar 2;when b c 3;when b d 1;");
-        odds("pass(0, 2)", x.pass(0, 2, 0), x.pass(0, 2, 1), 3, 4);
-        odds("pass(0, 3)", x.pass(0, 3, 0), x.pass(0, 3, 1), 15, 16);
-        odds("pass(1, 3)", x.pass(1, 3, 0), x.pass(1, 3, 1), 0, 1);
-        odds("pass(1, 4)", x.pass(1, 4, 0), x.pass(1, 4, 1), 9, 16);
+        Check.odds("pass(0, 2)", x.pass(0, 2, 0), x.pass(0, 2, 1), 3, 4);
+        Check.odds("pass(0, 3)", x.pass(0, 3, 0), x.pass(0, 3, 1), 15, 16);
+        Check.odds("pass(1, 3)", x.pass(1, 3, 0), x.pass(1, 3, 1), 0, 1);
+        Check.odds("pass(1, 4)", x.pass(1, 4, 0), x.pass(1, 4, 1), 9, 16);
         // PASSED, and FALLEN
         x = Check.village("deed a;place p smell 1 does a;case c bar 1;case d bar 1;when a c 1;when a d -1;");
-        odds("pass for certain", x.pass(0, 1, 0), x.pass(0, 1, 1), 1, 1);
+        Check.odds("pass for certain", x.pass(0, 1, 0), x.pass(0, 1, 1), 1, 1);
         x.hour();
         x.hour();
-        odds("pass(0, 0) if PASSED", x.pass(0, 0, 0), x.pass(0, 0, 1), 1, 1);
-        odds("pass(0, 8) if PASSED", x.pass(0, 8, 0), x.pass(0, 8, 1), 1, 1);
-        odds("pass(1, 8) if FALLEN", x.pass(1, 8, 0), x.pass(1, 8, 1), 0, 1);
+        Check.odds("pass(0, 0) if PASSED", x.pass(0, 0, 0), x.pass(0, 0, 1), 1, 1);
+        Check.odds("pass(0, 8) if PASSED", x.pass(0, 8, 0), x.pass(0, 8, 1), 1, 1);
+        Check.odds("pass(1, 8) if FALLEN", x.pass(1, 8, 0), x.pass(1, 8, 1), 0, 1);
         int[][] wrong = {{-1, 1, 0}, {2, 1, 0}, {0, -1, 0}, {0, 9, 0}, {0, 1, -1}, {0, 1, 2}};
         for (int[] w : wrong) {
             Check.due("pass of what can't be", x.pass(w[0], w[1], w[2]), NONE);
@@ -139,44 +134,35 @@ public final class OddsTest {
         Check.due("soon: now", x.soon(0), 0);
     }
 
-    private static void lie(DogDecrees x, int... due) {
-        Check.due("how many lie there", x.about(16), due.length);
-        for (int i = 0; i < due.length; i++) {
-            Check.due("lies(" + i + ")", x.lies(i), due[i]);
-        }
-        Check.due("lies(" + due.length + ")", x.lies(due.length), GAP);
-        Check.due("lies(-1)", x.lies(-1), GAP);
-    }
-
     private static void layings() {
         DogDecrees x = Check.village(TWO + "case c bar 1;case d bar 1;case e bar 1;when a c 1;when b d 1;hears 2;");
-        odds("best(0, 1, 0)", x.best(0, 1, 0, 0), x.best(0, 1, 0, 1), 1, 4);
-        lie(x, 0, 0);
+        Check.odds("best(0, 1, 0)", x.best(0, 1, 0, 0), x.best(0, 1, 0, 1), 1, 4);
+        Check.lie(x, 0, 0);
         // 5 of 8 are 38 of 60 DRAWS
-        odds("best(0, 1, 4)", x.best(0, 1, 4, 0), x.best(0, 1, 4, 1), 19, 30);
-        lie(x, 4, 0);
+        Check.odds("best(0, 1, 4)", x.best(0, 1, 4, 0), x.best(0, 1, 4, 1), 19, 30);
+        Check.lie(x, 4, 0);
         // d is HEARD from HOUR 2 on
-        odds("best(1, 2, 3)", x.best(1, 2, 3, 0), x.best(1, 2, 3, 1), 0, 1);
-        lie(x, 3, 0);
-        odds("best(1, 3, 2)", x.best(1, 3, 2, 0), x.best(1, 3, 2, 1), 5, 6);
-        lie(x, 0, 2);
-        odds("best(2, 6, 1)", x.best(2, 6, 1, 0), x.best(2, 6, 1, 1), 0, 1);
-        lie(x, 1, 0);
+        Check.odds("best(1, 2, 3)", x.best(1, 2, 3, 0), x.best(1, 2, 3, 1), 0, 1);
+        Check.lie(x, 3, 0);
+        Check.odds("best(1, 3, 2)", x.best(1, 3, 2, 0), x.best(1, 3, 2, 1), 5, 6);
+        Check.lie(x, 0, 2);
+        Check.odds("best(2, 6, 1)", x.best(2, 6, 1, 0), x.best(2, 6, 1, 1), 0, 1);
+        Check.lie(x, 1, 0);
         Check.due("nothing is laid", x.about(9) + x.about(10), 0);
         int[][] wrong = {{-1, 1, 1, 0}, {3, 1, 1, 0}, {0, 0, 1, 0}, {0, 7, 1, 0}, {0, 1, -1, 0}, {0, 1, 5, 0},
             {0, 1, 1, -1}, {0, 1, 1, 2}};
         for (int[] w : wrong) {
             x.best(0, 1, 1, 0);
             Check.due("best of what can't be", x.best(w[0], w[1], w[2], w[3]), NONE);
-            lie(x);
+            Check.lie(x);
         }
         // a bone counts up to 1 at each PLACE alone: three even ones by 2 of 4 together
         x = Check.village("deed a;deed b;place p smell 1 does a;place q smell 1 does a;place r smell 1 does b;"
                 + "path r to p;path r to q;start r;pull 1+(bones>0);case c bar 1;when a c 1;");
-        odds("best by one each", x.best(0, 1, 2, 0), x.best(0, 1, 2, 1), 4, 5);
-        lie(x, 1, 1, 0);
-        odds("best: of like ones the most first", x.best(0, 1, 3, 0), x.best(0, 1, 3, 1), 4, 5);
-        lie(x, 2, 1, 0);
+        Check.odds("best by one each", x.best(0, 1, 2, 0), x.best(0, 1, 2, 1), 4, 5);
+        Check.lie(x, 1, 1, 0);
+        Check.odds("best: of like ones the most first", x.best(0, 1, 3, 0), x.best(0, 1, 3, 1), 4, 5);
+        Check.lie(x, 2, 1, 0);
     }
 
     private static void fullPlaces() {
@@ -185,15 +171,15 @@ public final class OddsTest {
             x.lay(i < 8 ? 0 : 1);
         }
         // p has 8 bones: one more there, the rest at q. 10 of 10 + 3 + 1 + 2
-        odds("best with 9 at most", x.best(0, 1, 3, 0), x.best(0, 1, 3, 1), 19, 30);
-        lie(x, 1, 2);
+        Check.odds("best with 9 at most", x.best(0, 1, 3, 0), x.best(0, 1, 3, 1), 19, 30);
+        Check.lie(x, 1, 2);
         for (int i = 0; i < 8; i++) {
             x.lay(1);
         }
         Check.due("best: just one can be laid", x.best(0, 1, 1, 1) > 0, true);
-        lie(x, 1, 0);
+        Check.lie(x, 1, 0);
         Check.due("best: two can't be laid", x.best(0, 1, 2, 0), NONE);
-        lie(x);
+        Check.lie(x);
         Check.due("byTurns: two can't be laid", x.byTurns(0, 1, 0), NONE);
         Check.due("byTurns: two can't be laid", x.byTurns(0, 1, 1), NONE);
         x.take(1);
@@ -208,25 +194,25 @@ public final class OddsTest {
         x.lay(1);
         Check.due("best: none can be laid", x.best(0, 1, 1, 0), NONE);
         Check.due("best: none of none", x.best(0, 1, 0, 0) > 0, true);
-        lie(x, 0, 0);
+        Check.lie(x, 0, 0);
     }
 
     private static void least() {
         DogDecrees x = Check.village(TWO + "case c bar 1;case d bar 1;case e bar 1;when a c 1;when b d 1;hears 2;");
         // 1 + k of 4 + k are more than a half for k of 3: 4 of 7 (35 of 60 DRAWS)
         Check.due("least(0, 1)", x.least(0, 1), 3);
-        lie(x, 3, 0);
+        Check.lie(x, 3, 0);
         Check.due("least(0, 2)", x.least(0, 2), 1);
-        lie(x, 1, 0);
+        Check.lie(x, 1, 0);
         Check.due("least(1, 3)", x.least(1, 3), 0);
-        lie(x, 0, 0);
+        Check.lie(x, 0, 0);
         Check.due("least(2, 6)", x.least(2, 6), NONE);
-        lie(x);
+        Check.lie(x);
         int[][] wrong = {{-1, 1}, {3, 1}, {0, 0}, {0, 7}, {0, -1}};
         for (int[] w : wrong) {
             x.least(1, 3);
             Check.due("least of what can't be", x.least(w[0], w[1]), NONE);
-            lie(x);
+            Check.lie(x);
         }
         x = Check.village("deed a;deed b;place p smell 1 does a;place q smell 6 does b;path p to q;"
                 + "pull smell+bones;case c bar 1;when a c 1;");
@@ -243,12 +229,12 @@ public final class OddsTest {
         Check.due("byTurns of like ones", x.byTurns(1, 1, 1), 0);
         x.best(0, 1, 4, 0);
         x.byTurns(0, 1, 0);
-        lie(x, 4, 0);
+        Check.lie(x, 4, 0);
         int[][] wrong = {{-1, 1, 0}, {2, 1, 0}, {0, 0, 0}, {0, 7, 0}, {0, 1, -1}, {0, 1, 2}};
         for (int[] w : wrong) {
             Check.due("byTurns of what can't be", x.byTurns(w[0], w[1], w[2]), NONE);
         }
-        lie(x, 4, 0);
+        Check.lie(x, 4, 0);
     }
 
     private static void council() {
@@ -303,7 +289,7 @@ public final class OddsTest {
 
     private static void withoutPlaces() {
         DogDecrees x = Check.village("deed a;case c bar 1;when a c 1;");
-        odds("pass without PLACES", x.pass(0, 8, 0), x.pass(0, 8, 1), 0, 1);
+        Check.odds("pass without PLACES", x.pass(0, 8, 0), x.pass(0, 8, 1), 0, 1);
         Check.due("where without PLACES", x.where(0, 0, 0), NONE);
         Check.due("likely without PLACES", x.likely(0), NONE);
         Check.due("haunt without PLACES", x.haunt(), NONE);
