@@ -67,6 +67,7 @@ public final class DogDecrees {
     private static final int FALLEN = 2;
 
     private static final int DRAWS = 60;
+    private static final int SEEDS = 1000;
     private static final int MOST_HOURS = 2000;
     private static final int MOST_AGE = 99;
     private static final int MOST_PULL = 99;
@@ -240,7 +241,7 @@ public final class DogDecrees {
             return NONE;
         }
         acts.keep(now);
-        now.seed = (now.seed * 137 + 71) % 1000;
+        now.seed = (now.seed * 137 + 71) % SEEDS;
         odds.look(now.dogBit(), 1);
         now.comeTo(village, odds.goal(now.dog, now.seed % DRAWS));
         return now.dog;
@@ -288,7 +289,8 @@ public final class DogDecrees {
             return NONE;
         }
         odds.look(now.dogBit(), n);
-        return partOf(odds.waysToPass(now.dog, which, n), POWERS[n], part);
+        odds.aimAt(which);
+        return partOf(odds.waysToPass(now.dog, n), POWERS[n], part);
     }
 
     public int likely(int n) {
@@ -314,8 +316,9 @@ public final class DogDecrees {
             return NONE;
         }
         odds.look(now.dogBit(), AHEAD);
+        odds.aimAt(which);
         for (int n = 0; n <= AHEAD; n++) {
-            if (moreThanHalf(odds.waysToPass(now.dog, which, n), n)) {
+            if (moreThanHalf(odds.waysToPass(now.dog, n), n)) {
                 return n;
             }
         }
@@ -366,9 +369,10 @@ public final class DogDecrees {
             return NONE;
         }
         odds.look(ALL_PLACES, n);
+        odds.aimAt(which);
         int bits = 0;
         for (int place = 0; place < village.places; place++) {
-            if (moreThanHalf(odds.waysToPass(place, which, n), n)) {
+            if (moreThanHalf(odds.waysToPass(place, n), n)) {
                 bits |= 1 << place;
             }
         }
@@ -903,12 +907,29 @@ public final class DogDecrees {
             onceTold |= bit;
             reader.advance();
             boolean told;
-            if (word == WORD_PULL) {
-                told = pullTelling.tellOr(0);
-            } else if (word == WORD_START) {
-                told = tellStart();
-            } else {
-                told = tellNumber(word);
+            switch (word) {
+                case WORD_PULL:
+                    told = pullTelling.tellOr(0);
+                    break;
+                case WORD_START:
+                    told = tellStart();
+                    break;
+                case WORD_DAY:
+                    draft.day = readNumber(1, 24);
+                    told = draft.day != NONE;
+                    break;
+                case WORD_HEARS:
+                    draft.hears = readNumber(1, 24);
+                    told = draft.hears != NONE;
+                    break;
+                case WORD_AGE:
+                    draft.age = readNumber(0, MOST_AGE);
+                    told = draft.age != NONE;
+                    break;
+                default:
+                    draft.seed = readNumber(0, SEEDS - 1);
+                    told = draft.seed != NONE;
+                    break;
             }
             return told && reader.passBy(';');
         }
@@ -921,29 +942,6 @@ public final class DogDecrees {
             draft.start = place;
             reader.advance();
             return true;
-        }
-
-        private boolean tellNumber(int word) {
-            int told;
-            switch (word) {
-                case WORD_DAY:
-                    told = readNumber(1, 24);
-                    draft.day = told;
-                    break;
-                case WORD_HEARS:
-                    told = readNumber(1, 24);
-                    draft.hears = told;
-                    break;
-                case WORD_AGE:
-                    told = readNumber(0, MOST_AGE);
-                    draft.age = told;
-                    break;
-                default:
-                    told = readNumber(0, 999);
-                    draft.seed = told;
-                    break;
-            }
-            return told != NONE;
         }
 
         /** The number that stands here, and on behind it; NONE with a FAULT if it can't be. */
@@ -1109,7 +1107,17 @@ public final class DogDecrees {
                 formula.addStep(kind == KIND_NUMBER ? reader.number : -kind);
             }
             reader.advance();
-            return !bracket || tellOr(depth + 1) && reader.passBy(')');
+            if (!bracket) {
+                return true;
+            }
+            if (!tellOr(depth + 1)) {
+                return false;
+            }
+            if (reader.kind != ')') {
+                return reader.refuse(FAULT_STAND);
+            }
+            reader.advance();
+            return true;
         }
 
         private static boolean isTimes(int kind) {
@@ -1489,7 +1497,9 @@ public final class DogDecrees {
         final int[] pulls = new int[AHEAD * PLACES * (LAID + 1) * 2];
         // By HOUR ahead, PLACE from, PLACE to: of 60 DRAWS.
         final int[] ways = new int[AHEAD * PLACES * PLACES];
+        // Of the CASE aimed at: what the DEED of each PLACE counts.
         final int[] gains = new int[PLACES];
+        int aim = NONE;
         int leastGain = 0;
         int mostGain = 0;
         // By PLACE and SCORE.
@@ -1648,32 +1658,9 @@ public final class DogDecrees {
             return most;
         }
 
-        /** Of all ways of n HOURS from a PLACE, those by which a CASE is PASSED. */
-        long waysToPass(int place, int which, int n) {
-            if (!village.hasCase(which) || !within(n, 0, AHEAD) || now.standing[which] == FALLEN) {
-                return 0L;
-            }
-            if (now.standing[which] == PASSED) {
-                return POWERS[n];
-            }
-            setGains(which);
-            standAt(place, now.scores[which]);
-            int left = heardWithin(which, n);
-            long passed = 0;
-            for (int step = 0; step < n; step++) {
-                // SCORES from which the bar can't be reached any more are not gone on with
-                low = Math.max(low, village.bar[which] - left * mostGain);
-                if (low > high) {
-                    return passed * POWERS[n - step];
-                }
-                boolean heard = village.heardAt(now.hours + step) == which;
-                passed = passed * DRAWS + moveAll(step, heard ? which : NONE);
-                left -= heard ? 1 : 0;
-            }
-            return passed;
-        }
-
-        private void setGains(int which) {
+        /** From here on it is this CASE of which the ways to PASS are counted. */
+        void aimAt(int which) {
+            aim = which;
             leastGain = 0;
             mostGain = 0;
             for (int place = 0; place < village.places; place++) {
@@ -1683,11 +1670,35 @@ public final class DogDecrees {
             }
         }
 
-        /** In how many of the next n HOURS a CASE is HEARD. */
-        private int heardWithin(int which, int n) {
+        /** Of all ways of n HOURS from a PLACE, those by which the CASE aimed at is PASSED. */
+        long waysToPass(int place, int n) {
+            if (!village.hasCase(aim) || !within(n, 0, AHEAD) || now.standing[aim] == FALLEN) {
+                return 0L;
+            }
+            if (now.standing[aim] == PASSED) {
+                return POWERS[n];
+            }
+            standAt(place, now.scores[aim]);
+            int left = heardWithin(n);
+            long passed = 0;
+            for (int step = 0; step < n; step++) {
+                // SCORES from which the bar can't be reached any more are not gone on with
+                low = Math.max(low, village.bar[aim] - left * mostGain);
+                if (low > high) {
+                    return passed * POWERS[n - step];
+                }
+                boolean heard = village.heardAt(now.hours + step) == aim;
+                passed = passed * DRAWS + moveAll(step, heard ? aim : NONE);
+                left -= heard ? 1 : 0;
+            }
+            return passed;
+        }
+
+        /** In how many of the next n HOURS the CASE aimed at is HEARD. */
+        private int heardWithin(int n) {
             int heard = 0;
             for (int step = 0; step < n; step++) {
-                heard += village.heardAt(now.hours + step) == which ? 1 : 0;
+                heard += village.heardAt(now.hours + step) == aim ? 1 : 0;
             }
             return heard;
         }
@@ -1762,7 +1773,6 @@ public final class DogDecrees {
         long greatest = -1;
         int first = NONE;
         int other = NONE;
-        int which = NONE;
         int hours = 0;
         int hoursToday = 0;
 
@@ -1773,18 +1783,18 @@ public final class DogDecrees {
         }
 
         /** Bones are gone behind the DAY: the ways of later HOURS are the same for all layings. */
-        void prepare(int forCase, int n, int most) {
-            which = forCase;
+        void prepare(int which, int n, int most) {
             hours = n;
             hoursToday = Math.min(n, village.day - village.hourAt(now.hours));
             odds.layNone();
             odds.weighPulls(n, most);
             odds.countWays(now.dogBit(), hoursToday, n);
+            odds.aimAt(which);
         }
 
         private long measure() {
             odds.countWays(now.dogBit(), 0, hoursToday);
-            return odds.waysToPass(now.dog, which, hours);
+            return odds.waysToPass(now.dog, hours);
         }
 
         /** Finds how to lay just k; false if so many can't be laid. */
